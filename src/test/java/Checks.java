@@ -1,0 +1,113 @@
+/** Compares answers with those that are due, prints each that differs, and ends the test. */
+final class Checks {
+    private static int made = 0;
+    private static int wrong = 0;
+
+    private Checks() {
+    }
+
+    static void due(String call, long got, long want) {
+        made++;
+        if (got != want) {
+            report(call, Long.toString(got), Long.toString(want));
+        }
+    }
+
+    /** Compares doubles by their bits, so that 0.0 and -0.0 differ and a NaN is equal to a NaN. */
+    static void dueNumber(String call, double got, double want) {
+        made++;
+        if (Double.doubleToLongBits(got) != Double.doubleToLongBits(want)) {
+            report(call, Double.toString(got), Double.toString(want));
+        }
+    }
+
+    static void dueText(String call, String got, String want) {
+        made++;
+        if (!got.equals(want)) {
+            report(call, got, want);
+        }
+    }
+
+    private static void report(String call, String got, String want) {
+        wrong++;
+        if (wrong <= 50) {
+            System.out.println(call + " answered " + got + ", due is " + want);
+        }
+    }
+
+    static int wrongSoFar() {
+        return wrong;
+    }
+
+    /** Ends the program with exit code 1 if an answer was wrong, or none was looked at. */
+    static void end() {
+        System.out.println(made + " answers looked at, " + wrong + " not as due");
+        if (wrong != 0 || made == 0) {
+            System.exit(1);
+        }
+    }
+
+    static long bits(double number) {
+        return Double.doubleToRawLongBits(number);
+    }
+
+    static void type(GlacierGuides office, String text) {
+        office.clearText();
+        for (int i = 0; i < text.length(); i++) {
+            office.type(text.charAt(i));
+        }
+    }
+
+    static int perform(GlacierGuides office, String text) {
+        type(office, text);
+        return office.perform();
+    }
+
+    /** Everything that an object tells, but for the history and the text, which are not of its state. */
+    static String told(GlacierGuides office) {
+        StringBuilder all = new StringBuilder();
+        for (int what = 0; what <= 10; what++) {
+            all.append("count ").append(what).append('=').append(office.count(what)).append('\n');
+        }
+        all.append("temperature=").append(office.temperature()).append('\n');
+        for (int guide = 0; guide < 9; guide++) {
+            for (int what = 0; what <= 5; what++) {
+                all.append("guide ").append(guide).append(' ').append(what).append('=')
+                    .append(office.guide(guide, what)).append('\n');
+            }
+        }
+        for (int bridge = 0; bridge < 7; bridge++) {
+            all.append("bridge ").append(bridge).append('=').append(bits(office.thickness(bridge))).append('\n');
+        }
+        for (int tour = 0; tour < 11; tour++) {
+            tellTour(office, tour, all);
+        }
+        return all.toString();
+    }
+
+    private static void tellTour(GlacierGuides office, int tour, StringBuilder all) {
+        for (int what = 0; what <= 10; what++) {
+            all.append("tour ").append(tour).append(' ').append(what).append('=')
+                .append(office.tour(tour, what)).append('\n');
+        }
+        all.append("needed ").append(tour).append('=').append(office.needed(tour)).append('\n');
+        all.append("best ").append(tour).append('=').append(office.bestGuide(tour)).append('\n');
+        for (int place = 0; place < 5; place++) {
+            for (int what = 0; what <= 2; what++) {
+                all.append("rope ").append(tour).append(' ').append(place).append(' ').append(what).append('=')
+                    .append(office.rope(tour, place, what)).append('\n');
+            }
+        }
+        for (int bridge = 0; bridge < 7; bridge++) {
+            all.append("holds ").append(tour).append(' ').append(bridge).append('=')
+                .append(office.holds(tour, bridge)).append('\n');
+        }
+    }
+
+    /** Calls what gives this answer, and looks that nothing was changed by it, not even the history. */
+    static void unchanged(GlacierGuides office, String before, int states, int length, String call) {
+        dueText(call + " changes the state", told(office), before);
+        due(call + " changes the history", office.count(11), states);
+        due(call + " changes the text", office.count(12), length);
+    }
+}
