@@ -43,6 +43,7 @@ public final class GlacierGuides {
     private static final long BITS_OF_60 = 0x404E000000000000L;
     private static final long BITS_OF_40 = 0x4044000000000000L;
     private static final long BITS_OF_30 = 0x403E000000000000L;
+    private static final long ALL_BUT_SIGN = 0x7FFFFFFFFFFFFFFFL;
 
     private final State now;
     private final State snapshot;
@@ -509,12 +510,12 @@ public final class GlacierGuides {
     }
 
     private static boolean isTemperature(long bits) {
-        return bits < 0 ? isFromZeroTo(BITS_OF_40, bits & Long.MAX_VALUE) : isFromZeroTo(BITS_OF_30, bits);
+        return bits < 0 ? isFromZeroTo(BITS_OF_40, bits & ALL_BUT_SIGN) : isFromZeroTo(BITS_OF_30, bits);
     }
 
     // ---- numbers
 
-    // The library that is allowed has no Double.longBitsToDouble. Every product here is exact,
+    // The library that is allowed does not turn bits into a double. Every product here is exact,
     // for it has no more bits than a double holds. The bits are those of a number up to 500.0.
     private static double numberOf(long bits) {
         int exponent = (int) (bits >>> 52) & 0x7FF;

@@ -24,8 +24,16 @@ final class Checks {
     static void dueText(String call, String got, String want) {
         made++;
         if (!got.equals(want)) {
-            report(call, got, want);
+            reportFirstLine(call, got.split("\n"), want.split("\n"));
         }
+    }
+
+    private static void reportFirstLine(String call, String[] got, String[] want) {
+        int line = 0;
+        while (line < got.length && line < want.length && got[line].equals(want[line])) {
+            line++;
+        }
+        report(call, line < got.length ? got[line] : "no more", line < want.length ? want[line] : "no more");
     }
 
     private static void report(String call, String got, String want) {
@@ -104,7 +112,7 @@ final class Checks {
         }
     }
 
-    /** Calls what gives this answer, and looks that nothing was changed by it, not even the history. */
+    /** Looks that a call has changed nothing, not even the history. */
     static void unchanged(GlacierGuides office, String before, int states, int length, String call) {
         dueText(call + " changes the state", told(office), before);
         due(call + " changes the history", office.count(11), states);

@@ -10,6 +10,8 @@ public final class HistoryTest {
         snapshots();
         restoring();
         deepCopies();
+        numbersThatAreGivenAgain();
+        nothingStays();
         Checks.end();
     }
 
@@ -186,5 +188,73 @@ public final class HistoryTest {
         Checks.due("rope(0, 0, 0)", x.rope(0, 0, 0), 0);
         x.restore();
         Checks.dueText("the snapshot stays", Checks.told(x), kept);
+    }
+
+    /** A number that is given anew bears another tour; the former one must come back whole. */
+    private static void numbersThatAreGivenAgain() {
+        GlacierGuides x = new GlacierGuides();
+        for (int i = 0; i < 4; i++) {
+            x.addGuide(2, 40 + i);
+        }
+        x.addBridge(Checks.bits(50.0));
+        x.addTour(9, Checks.bits(20.0), 10, 0);
+        x.addTour(9, Checks.bits(25.0), 11, 1);
+        x.lead(2, 1);
+        x.lead(1, 1);
+        x.keep();
+        String kept = Checks.told(x);
+        x.undo();
+        x.undo();
+        x.undo();
+        x.addTour(7, Checks.bits(10.0), 12, 0);
+        x.lead(3, 1);
+        x.lead(0, 1);
+        x.cancel(1);
+        String other = Checks.told(x);
+        Checks.due("restore()", x.restore(), 0);
+        Checks.dueText("restore() of the former tour", Checks.told(x), kept);
+        Checks.due("25.0 into 20.0 can be merged", x.merge(1, 0), 0);
+        x.undo();
+        Checks.due("20.0 into 25.0 cannot be merged", x.merge(0, 1), GlacierGuides.NOT_POSSIBLE);
+        x.undo();
+        Checks.dueText("undo() to the other tour", Checks.told(x), other);
+        x.undo();
+        Checks.due("tour(1, 7) before it was cancelled", x.tour(1, 7), GlacierGuides.NONE);
+        x.cancel(1);
+        x.restore();
+        x.pass(10);
+        Checks.due("the cause of the former tour", x.tour(1, 7), 1);
+        x.undo();
+        x.undo();
+        Checks.due("the cause of the other tour", x.tour(1, 7), 4);
+    }
+
+    private static void nothingStays() {
+        GlacierGuides x = new GlacierGuides();
+        x.keep();
+        x.addGuide(2, 40);
+        x.addBridge(Checks.bits(50.0));
+        x.addTour(9, Checks.bits(20.0), 10, 1);
+        x.addTour(9, Checks.bits(20.0), 10, 1);
+        x.book(0, 5);
+        x.lead(0, 0);
+        x.book(1, 4);
+        x.cancel(1);
+        x.restore();
+        Checks.due("guide(0, 0)", x.guide(0, 0), GlacierGuides.UNKNOWN);
+        Checks.due("tour(0, 0)", x.tour(0, 0), GlacierGuides.UNKNOWN);
+        Checks.dueNumber("thickness(0)", x.thickness(0), Double.NaN);
+        x.addGuide(1, 30);
+        x.addTour(8, Checks.bits(10.0), 11, 0);
+        x.addTour(8, Checks.bits(10.0), 11, 0);
+        int[] told = {8, 11, 0, 0, 0, 0, 0, GlacierGuides.NONE, 0, 7, 1};
+        for (int what = 0; what < told.length; what++) {
+            Checks.due("tour(0, " + what + ")", x.tour(0, what), told[what]);
+            Checks.due("tour(1, " + what + ")", x.tour(1, what), told[what]);
+        }
+        Checks.due("guide(0, 0)", x.guide(0, 0), 1);
+        Checks.due("guide(0, 1)", x.guide(0, 1), 30);
+        Checks.due("lead(0, 0)", x.lead(0, 0), 6);
+        Checks.due("rope(0, 0, 0)", x.rope(0, 0, 0), 0);
     }
 }

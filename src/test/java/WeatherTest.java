@@ -147,6 +147,11 @@ public final class WeatherTest {
         x.pass(2);
         Checks.dueNumber("10.0 and 0.5", x.thickness(0), 10.5);
         Checks.dueNumber("still 500.0", x.thickness(1), 500.0);
+        x.setTemperature(Checks.bits(-0.125));
+        x.addBridge(Checks.bits(499.875));
+        x.pass(1);
+        Checks.dueNumber("10.5 and 0.03125", x.thickness(0), 10.53125);
+        Checks.dueNumber("499.875 and 0.03125", x.thickness(3), 499.90625);
     }
 
     private static void smallestNumbers() {
