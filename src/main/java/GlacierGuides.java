@@ -69,7 +69,7 @@ public final class GlacierGuides {
         }
         history.record(now);
         int number = now.guideCount;
-        now.guides[number].certify(kind, until);
+        now.guides[number].begin(kind, until);
         now.guideCount++;
         return number;
     }
@@ -333,9 +333,9 @@ public final class GlacierGuides {
             case 3:
                 return now.firstOpenTourOf(guide);
             case 4:
-                return now.toursLedBy(guide);
+                return asked.toursLed;
             case 5:
-                return now.guestsLedBy(guide);
+                return asked.guestsLed;
             default:
                 return BAD_VALUE;
         }
@@ -548,6 +548,27 @@ public final class GlacierGuides {
     private static final class Guide {
         int kind;
         int until;
+        // Counted when a tour goes, for a class that is renewed later changes the ropes that are told.
+        int toursLed;
+        int guestsLed;
+
+        // A guide who was undone may have stood here, so nothing of him may stay.
+        void begin(int itsKind, int itsUntil) {
+            certify(itsKind, itsUntil);
+            toursLed = 0;
+            guestsLed = 0;
+        }
+
+        void copyFrom(Guide other) {
+            certify(other.kind, other.until);
+            toursLed = other.toursLed;
+            guestsLed = other.guestsLed;
+        }
+
+        void haveLed(int guests) {
+            toursLed++;
+            guestsLed += guests;
+        }
 
         void certify(int newKind, int newUntil) {
             kind = newKind;
@@ -706,7 +727,7 @@ public final class GlacierGuides {
 
         void copyFrom(State other) {
             for (int i = 0; i < other.guideCount; i++) {
-                guides[i].certify(other.guides[i].kind, other.guides[i].until);
+                guides[i].copyFrom(other.guides[i]);
             }
             System.arraycopy(other.thicknesses, 0, thicknesses, 0, MOST_BRIDGES);
             for (int i = 0; i < other.tourCount; i++) {
@@ -780,29 +801,6 @@ public final class GlacierGuides {
             return NONE;
         }
 
-        int toursLedBy(int guide) {
-            int led = 0;
-            for (int i = 0; i < tourCount; i++) {
-                if (tours[i].state == GONE && tours[i].hasInRow(guide)) {
-                    led++;
-                }
-            }
-            return led;
-        }
-
-        int guestsLedBy(int guide) {
-            int guests = 0;
-            for (int i = 0; i < tourCount; i++) {
-                Tour tour = tours[i];
-                for (int place = 0; place < tour.guides; place++) {
-                    if (tour.state == GONE && tour.row[place] == guide) {
-                        guests += guestsOnRope(tour, place);
-                    }
-                }
-            }
-            return guests;
-        }
-
         // ---- bridges
 
         double neededBy(Tour tour) {
@@ -869,7 +867,7 @@ public final class GlacierGuides {
                 if (tour.state == OPEN && tour.day == day) {
                     int cause = causeAgainst(tour);
                     if (cause == NO_CAUSE) {
-                        tour.state = GONE;
+                        letGo(tour);
                         went++;
                     } else {
                         callOff(tour, cause);
@@ -881,6 +879,13 @@ public final class GlacierGuides {
             }
             day++;
             return went;
+        }
+
+        void letGo(Tour tour) {
+            tour.state = GONE;
+            for (int place = 0; place < tour.guides; place++) {
+                guides[tour.row[place]].haveLed(guestsOnRope(tour, place));
+            }
         }
 
         // ---- money and sums

@@ -10,6 +10,9 @@ public final class GuidesTest {
         renewingChangesRopes();
         tellingOfGuides();
         tellingOfToursThatWent();
+        renewingBehindToursThatWent();
+        guestsLedComeBack();
+        guestsLedOfNumbersThatAreGivenAgain();
         bestGuides();
         bestGuideOnSteepSlopes();
         taking();
@@ -174,6 +177,84 @@ public final class GuidesTest {
         Checks.due("undo()", x.undo(), 4);
         Checks.due("guide(2, 4) undone", x.guide(2, 4), 1);
         Checks.due("guide(2, 5) undone", x.guide(2, 5), 2);
+    }
+
+    /** On day 0 a tour goes with 6 guests on the rope of the guide 0 and 1 on that of the guide 1. */
+    private static GlacierGuides withTourThatWent() {
+        GlacierGuides x = new GlacierGuides();
+        x.addGuide(1, 9);
+        x.addGuide(1, 9);
+        x.addTour(0, 0L, 1, 0);
+        x.book(0, 7);
+        x.lead(0, 0);
+        x.lead(1, 0);
+        Checks.due("pass(1)", x.pass(1), 1);
+        return x;
+    }
+
+    private static void dueLed(String when, GlacierGuides x, int guide, int tours, int guests) {
+        Checks.due("guide(" + guide + ", 4) " + when, x.guide(guide, 4), tours);
+        Checks.due("guide(" + guide + ", 5) " + when, x.guide(guide, 5), guests);
+    }
+
+    private static void renewingBehindToursThatWent() {
+        GlacierGuides x = withTourThatWent();
+        x.renew(0, 3, 9);
+        dueLed("after a renewal to class 3", x, 0, 1, 6);
+        dueLed("after the renewal of the one ahead of him", x, 1, 1, 1);
+        Checks.due("the ratio is that of the class now", x.rope(0, 0, 1), 8);
+        x.addTour(2, 0L, 1, 0);
+        x.book(1, 9);
+        x.lead(0, 1);
+        x.lead(1, 1);
+        x.renew(0, 2, 9);
+        Checks.due("the second tour goes", x.pass(2), 1);
+        dueLed("of a tour ahead of which he was renewed", x, 0, 2, 13);
+        dueLed("of two tours", x, 1, 2, 3);
+        x.renew(0, 1, 0);
+        x.renew(1, 3, 0);
+        dueLed("after a renewal to class 1", x, 0, 2, 13);
+        dueLed("after a renewal to class 3", x, 1, 2, 3);
+    }
+
+    private static void guestsLedComeBack() {
+        GlacierGuides x = withTourThatWent();
+        x.keep();
+        x.renew(0, 2, 9);
+        x.undo();
+        dueLed("when the renewal is undone", x, 0, 1, 6);
+        x.undo();
+        dueLed("when the day is undone", x, 0, 0, 0);
+        dueLed("when the day is undone", x, 1, 0, 0);
+        x.renew(0, 2, 9);
+        Checks.due("pass(1)", x.pass(1), 1);
+        dueLed("when he is renewed ahead of it", x, 0, 1, 7);
+        dueLed("when nobody is left for him", x, 1, 1, 0);
+        x.restore();
+        dueLed("restored", x, 0, 1, 6);
+        dueLed("restored", x, 1, 1, 1);
+        x.renew(0, 3, 9);
+        dueLed("restored, and renewed", x, 0, 1, 6);
+        x.undo();
+        x.undo();
+        dueLed("when restore() is undone", x, 0, 1, 7);
+    }
+
+    private static void guestsLedOfNumbersThatAreGivenAgain() {
+        GlacierGuides x = new GlacierGuides();
+        x.addTour(0, 0L, 1, 0);
+        x.book(0, 2);
+        x.keep();
+        x.addGuide(2, 9);
+        x.lead(0, 0);
+        x.pass(1);
+        dueLed("of the first one", x, 0, 1, 2);
+        x.restore();
+        Checks.due("addGuide(1, 9)", x.addGuide(1, 9), 0);
+        dueLed("of the one who bears his number", x, 0, 0, 0);
+        x.undo();
+        x.undo();
+        dueLed("of the first one again", x, 0, 1, 2);
     }
 
     private static void bestGuides() {

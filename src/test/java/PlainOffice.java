@@ -19,6 +19,7 @@ final class PlainOffice {
         int paid;
         int state;
         int cause;
+        List<Integer> ropesThatWent = new ArrayList<>();
 
         PlainTour copy() {
             PlainTour copy = new PlainTour();
@@ -31,6 +32,7 @@ final class PlainOffice {
             copy.paid = paid;
             copy.state = state;
             copy.cause = cause;
+            copy.ropesThatWent = ropesThatWent;
             return copy;
         }
 
@@ -322,6 +324,7 @@ final class PlainOffice {
                         stop(t, cause);
                     } else {
                         t.state = 1;
+                        t.ropesThatWent = ropes(t);
                         went++;
                     }
                 }
@@ -471,7 +474,7 @@ final class PlainOffice {
             }
             if (place >= 0 && t.state == 1) {
                 led++;
-                guests += ropes(t).get(place);
+                guests += t.ropesThatWent.get(place);
             }
         }
         int[] certificate = s.guides.get(guide);
@@ -574,9 +577,5 @@ final class PlainOffice {
 
     long temperature() {
         return Double.doubleToLongBits(s.temperature);
-    }
-
-    boolean hasToursThatWent() {
-        return count(5) > 0;
     }
 }

@@ -16,8 +16,6 @@ public final class RandomRunsTest {
     private final PlainOffice plain = new PlainOffice();
     private final int wildness;
     private String call = "";
-    // What guide(.., 5) tells of tours that went before a class was renewed is left open here (see NOTES.md).
-    private boolean ropesAreOpen = false;
 
     private RandomRunsTest(long seed) {
         random = new Random(seed);
@@ -128,10 +126,7 @@ public final class RandomRunsTest {
 
     private long[] renew(int guide, int kind, int until) {
         call = "renew(" + guide + ", " + kind + ", " + until + ")";
-        int former = plain.guide(guide, 0);
-        long[] both = {x.renew(guide, kind, until), plain.renew(guide, kind, until)};
-        ropesAreOpen |= plain.hasToursThatWent() && plain.guide(guide, 0) != former;
-        return both;
+        return new long[] {x.renew(guide, kind, until), plain.renew(guide, kind, until)};
     }
 
     private long[] addBridge(long bits) {
@@ -254,9 +249,8 @@ public final class RandomRunsTest {
     }
 
     private long[] guide(int guide, int what) {
-        int asked = what == 5 && ropesAreOpen ? 4 : what;
-        call = "guide(" + guide + ", " + asked + ")";
-        return new long[] {x.guide(guide, asked), plain.guide(guide, asked)};
+        call = "guide(" + guide + ", " + what + ")";
+        return new long[] {x.guide(guide, what), plain.guide(guide, what)};
     }
 
     private long[] tour(int tour, int what) {
