@@ -2,8 +2,14 @@
 final class Checks {
     private static int made = 0;
     private static int wrong = 0;
+    private static String test = "";
 
     private Checks() {
+    }
+
+    /** Begins a test with this name, which is told with each answer that is not as due. */
+    static void begin(String name) {
+        test = name;
     }
 
     static void due(String call, long got, long want) {
@@ -39,8 +45,12 @@ final class Checks {
     private static void report(String call, String got, String want) {
         wrong++;
         if (wrong <= 50) {
-            System.out.println(call + " answered " + got + ", due is " + want);
+            System.out.println((test.isEmpty() ? "" : "[" + test + "] ") + call + " answered " + got + ", due is " + want);
         }
+    }
+
+    static int madeSoFar() {
+        return made;
     }
 
     static int wrongSoFar() {
@@ -71,44 +81,46 @@ final class Checks {
         return office.perform();
     }
 
-    /** Everything that an object tells, but for the history and the text, which are not of its state. */
+    /**
+     * All of the state that an object tells, a line for each call that is made for it. They are few, for an
+     * object is used for at most 512 calls.
+     */
     static String told(GlacierGuides office) {
         StringBuilder all = new StringBuilder();
+        int[] counts = new int[11];
         for (int what = 0; what <= 10; what++) {
-            all.append("count ").append(what).append('=').append(office.count(what)).append('\n');
+            counts[what] = office.count(what);
+            all.append("count ").append(what).append('=').append(counts[what]).append('\n');
         }
         all.append("temperature=").append(office.temperature()).append('\n');
-        for (int guide = 0; guide < 9; guide++) {
+        for (int guide = 0; guide < counts[1]; guide++) {
             for (int what = 0; what <= 5; what++) {
                 all.append("guide ").append(guide).append(' ').append(what).append('=')
                     .append(office.guide(guide, what)).append('\n');
             }
         }
-        for (int bridge = 0; bridge < 7; bridge++) {
+        for (int bridge = 0; bridge < counts[2]; bridge++) {
             all.append("bridge ").append(bridge).append('=').append(bits(office.thickness(bridge))).append('\n');
         }
-        for (int tour = 0; tour < 11; tour++) {
+        for (int tour = 0; tour < counts[3]; tour++) {
             tellTour(office, tour, all);
         }
         return all.toString();
     }
 
     private static void tellTour(GlacierGuides office, int tour, StringBuilder all) {
+        int row = 0;
         for (int what = 0; what <= 10; what++) {
-            all.append("tour ").append(tour).append(' ').append(what).append('=')
-                .append(office.tour(tour, what)).append('\n');
+            int answer = office.tour(tour, what);
+            row = what == 4 ? answer : row;
+            all.append("tour ").append(tour).append(' ').append(what).append('=').append(answer).append('\n');
         }
         all.append("needed ").append(tour).append('=').append(office.needed(tour)).append('\n');
-        all.append("best ").append(tour).append('=').append(office.bestGuide(tour)).append('\n');
-        for (int place = 0; place < 5; place++) {
-            for (int what = 0; what <= 2; what++) {
+        for (int place = 0; place < row; place++) {
+            for (int what = 0; what <= 2; what += 2) {
                 all.append("rope ").append(tour).append(' ').append(place).append(' ').append(what).append('=')
                     .append(office.rope(tour, place, what)).append('\n');
             }
-        }
-        for (int bridge = 0; bridge < 7; bridge++) {
-            all.append("holds ").append(tour).append(' ').append(bridge).append('=')
-                .append(office.holds(tour, bridge)).append('\n');
         }
     }
 

@@ -1,9 +1,11 @@
 import java.util.Random;
 
-/** Runs of 512 calls, drawn from a fixed seed each, compared call by call with PlainOffice. */
+/** Runs of almost 512 calls, drawn from a fixed seed each, compared call by call with PlainOffice. */
 public final class RandomRunsTest {
     private static final int RUNS = 3000;
     private static final int CALLS = 512;
+    // To clear a text, to type the longest command, and to perform it.
+    private static final int MOST_CALLS_OF_A_STEP = 32;
     private static final double[] SLOPES = {0.0, 10.0, 14.9, 15.0, 20.0, 29.5, 30.0, 40.0, 45.0, 60.0};
     private static final double[] TEMPERATURES = {0.0, -0.0, 1.0, -1.0, 0.1, -0.3, 5.0, -20.0, 30.0, -40.0};
     private static final double[] WRONG = {-0.0, Double.NaN, 500.1, -41.0, 60.1, Double.NEGATIVE_INFINITY};
@@ -16,6 +18,7 @@ public final class RandomRunsTest {
     private final PlainOffice plain = new PlainOffice();
     private final int wildness;
     private String call = "";
+    private int calls;
 
     private RandomRunsTest(long seed) {
         random = new Random(seed);
@@ -25,14 +28,15 @@ public final class RandomRunsTest {
     public static void main(String[] args) {
         for (int run = 0; run < RUNS && Checks.wrongSoFar() == 0; run++) {
             RandomRunsTest test = new RandomRunsTest(run);
-            for (int i = 0; i < CALLS && Checks.wrongSoFar() == 0; i++) {
-                test.step(run + "/" + i + " ");
+            while (test.calls <= CALLS - MOST_CALLS_OF_A_STEP && Checks.wrongSoFar() == 0) {
+                test.step(run + "/" + test.calls + " ");
             }
         }
         Checks.end();
     }
 
     private void step(String where) {
+        calls++;
         boolean isNumber = random.nextInt(12) == 0;
         if (isNumber) {
             double[] both = askNumber();
@@ -191,6 +195,7 @@ public final class RandomRunsTest {
 
     private long[] perform() {
         if (random.nextInt(8) > 0) {
+            calls++;
             Checks.due("clearText()", x.clearText(), plain.clearText());
             typeCommand();
         }
@@ -208,6 +213,7 @@ public final class RandomRunsTest {
         if (random.nextInt(4) == 0) {
             text.setCharAt(random.nextInt(text.length()), MARKS.charAt(random.nextInt(MARKS.length())));
         }
+        calls += text.length();
         for (int i = 0; i < text.length(); i++) {
             Checks.due("type()", x.type(text.charAt(i)), plain.type(text.charAt(i)));
         }

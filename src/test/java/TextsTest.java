@@ -46,8 +46,11 @@ public final class TextsTest {
         Checks.due("nothing stays of the old text", x.perform(), -100);
     }
 
+    private static int onNew(String text) {
+        return Checks.perform(new GlacierGuides(), text);
+    }
+
     private static void faults() {
-        GlacierGuides x = new GlacierGuides();
         String[] texts = {
             "", " ", "b", "boo", "books 0 1", "Book 0 1", " book 0 1", "bookbook", "leads 0 0", "lea 0 0", "xook 0 0",
             "mergf 0 0", "cance 0", "cancell 0", "9", "release 0 0", "undo", "b" + (char) 0xe4 + "ok 0 1",
@@ -72,17 +75,17 @@ public final class TextsTest {
         };
         Checks.due("as many texts as faults", texts.length, faults.length);
         for (int i = 0; i < texts.length; i++) {
+            GlacierGuides x = new GlacierGuides();
             int due = faults[i] < 0 ? GlacierGuides.UNKNOWN : -100 - faults[i];
             Checks.due("perform() of \"" + texts[i] + "\"", Checks.perform(x, texts[i]), due);
             Checks.due("the text stays", x.count(12), texts[i].length());
+            Checks.due("no act was recorded", x.count(11), 0);
         }
-        Checks.due("no act was recorded", x.count(11), 0);
-        Checks.due("a text of 40 characters", Checks.perform(x, "book 1 1" + " ".repeat(32)), -108);
-        Checks.due("40 letters", Checks.perform(x, "b".repeat(40)), -100);
+        Checks.due("a text of 40 characters", onNew("book 1 1" + " ".repeat(32)), -108);
+        Checks.due("40 letters", onNew("b".repeat(40)), -100);
     }
 
     private static void faultOfEachCut() {
-        GlacierGuides x = new GlacierGuides();
         String[] words = {"book", "leave", "merge", "cancel", "lead"};
         for (String word : words) {
             String text = word.equals("cancel") ? "cancel 10" : word + " 10 20";
@@ -93,43 +96,45 @@ public final class TextsTest {
                     due = GlacierGuides.UNKNOWN;
                 }
                 Checks.due("perform() of \"" + text.substring(0, length) + "\"",
-                    Checks.perform(x, text.substring(0, length)), due);
+                    onNew(text.substring(0, length)), due);
             }
-            Checks.due("perform() of \"" + text + "\"", Checks.perform(x, text), GlacierGuides.UNKNOWN);
+            Checks.due("perform() of \"" + text + "\"", onNew(text), GlacierGuides.UNKNOWN);
         }
     }
 
     private static void faultOfEachCharacter() {
-        GlacierGuides x = new GlacierGuides();
         for (char c = 0; c < 400; c++) {
             boolean letter = c >= 'a' && c <= 'z';
             boolean digit = c >= '0' && c <= '9';
-            Checks.due("book and the character " + (int) c, Checks.perform(x, "book" + c),
+            Checks.due("book and the character " + (int) c, onNew("book" + c),
                 letter ? -100 : c == ' ' ? -105 : -104);
-            Checks.due("a first digit " + (int) c, Checks.perform(x, "book " + c), digit ? -106 : -105);
-            Checks.due("a second digit " + (int) c, Checks.perform(x, "book 1" + c),
+            Checks.due("a first digit " + (int) c, onNew("book " + c), digit ? -106 : -105);
+            Checks.due("a second digit " + (int) c, onNew("book 1" + c),
                 digit || c == ' ' ? -107 : -106);
-            Checks.due("behind a zero " + (int) c, Checks.perform(x, "book 0" + c), c == ' ' ? -107 : -106);
-            Checks.due("behind the end " + (int) c, Checks.perform(x, "cancel 10" + c), -109);
+            Checks.due("behind a zero " + (int) c, onNew("book 0" + c), c == ' ' ? -107 : -106);
+            Checks.due("behind the end " + (int) c, onNew("cancel 10" + c), -109);
         }
     }
 
     private static void numbers() {
+        for (int tour = 0; tour <= 99; tour++) {
+            Checks.due("book " + tour + " 1", Checks.perform(withTours(), "book " + tour + " 1"),
+                tour < 10 ? tour + 1 : GlacierGuides.UNKNOWN);
+        }
+        for (int guests = 0; guests <= 99; guests++) {
+            GlacierGuides x = withTours();
+            x.book(0, 1);
+            int due = guests < 1 || guests > 12 ? GlacierGuides.BAD_VALUE : guests > 11 ? GlacierGuides.FULL : guests;
+            Checks.due("book 0 " + guests, Checks.perform(x, "book 0 " + guests), due);
+        }
+    }
+
+    private static GlacierGuides withTours() {
         GlacierGuides x = new GlacierGuides();
         for (int i = 0; i < 10; i++) {
             x.addTour(5, 0L, 1 + i, 0);
         }
-        for (int tour = 0; tour <= 99; tour++) {
-            Checks.due("book " + tour + " 1", Checks.perform(x, "book " + tour + " 1"),
-                tour < 10 ? tour + 1 : GlacierGuides.UNKNOWN);
-        }
-        for (int guests = 0; guests <= 99; guests++) {
-            int due = guests < 1 || guests > 12 ? GlacierGuides.BAD_VALUE : guests > 11 ? GlacierGuides.FULL : guests;
-            Checks.due("book 0 " + guests, Checks.perform(x, "book 0 " + guests), due);
-            if (due > 0) {
-                x.undo();
-            }
-        }
+        return x;
     }
 
     private static void performing() {
@@ -174,9 +179,6 @@ public final class TextsTest {
     }
 
     private static void performingErrors() {
-        GlacierGuides x = new GlacierGuides();
-        x.addGuide(2, 9);
-        x.addTour(5, 0L, 100, 0);
         String[] texts = {
             "book 1 1", "book 0 0", "book 0 13", "leave 1 1", "leave 0 0", "leave 0 1", "merge 0 1", "merge 0 0",
             "cancel 1", "lead 1 0", "lead 0 1",
@@ -186,12 +188,21 @@ public final class TextsTest {
             GlacierGuides.BAD_VALUE, GlacierGuides.NOT_POSSIBLE, GlacierGuides.UNKNOWN, GlacierGuides.BAD_VALUE,
             GlacierGuides.UNKNOWN, GlacierGuides.UNKNOWN, GlacierGuides.UNKNOWN,
         };
-        String before = Checks.told(x);
         for (int i = 0; i < texts.length; i++) {
+            GlacierGuides x = withOneTour();
+            String before = Checks.told(x);
             Checks.due("perform() of \"" + texts[i] + "\"", Checks.perform(x, texts[i]), due[i]);
             Checks.unchanged(x, before, 2, texts[i].length(), texts[i]);
         }
+        GlacierGuides x = withOneTour();
         x.book(0, 12);
         Checks.due("FULL", Checks.perform(x, "book 0 1"), GlacierGuides.FULL);
+    }
+
+    private static GlacierGuides withOneTour() {
+        GlacierGuides x = new GlacierGuides();
+        x.addGuide(2, 9);
+        x.addTour(5, 0L, 100, 0);
+        return x;
     }
 }
