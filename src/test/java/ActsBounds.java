@@ -147,7 +147,8 @@ final class ActsBounds extends Bounds {
             rows("addBridge(0x0010000000000000) -> 0; thickness(0) -> 2.2250738585072014E-308");
         });
         sentence("Returns its number", () ->
-            rows("addBridge(1.0) -> 0; addBridge(-1.0) -> BAD_VALUE; addBridge(1.0) -> 1; undo(); addBridge(2.0) -> 1"));
+            rows("addBridge(1.0) -> 0; addBridge(-1.0) -> BAD_VALUE; addBridge(1.0) -> 1; undo(); "
+                + "addBridge(2.0) -> 1"));
         sentence("BAD_VALUE (no number", () -> refusedWithEach(NO_NUMBERS, "", "addBridge(#) -> BAD_VALUE"));
         sentence("or not from 0.0 to 500.0", () -> {
             acts("", "addBridge(0.0) -> 0");
@@ -184,7 +185,8 @@ final class ActsBounds extends Bounds {
                 rows("setTemperature(" + number + ") -> 1; temperature() -> " + number);
             }
         });
-        sentence("Returns 1", () -> rows("setTemperature(30.0) -> 1; setTemperature(-40.0) -> 1; setTemperature(0.0) -> 1"));
+        sentence("Returns 1", () -> rows("setTemperature(30.0) -> 1; setTemperature(-40.0) -> 1; "
+            + "setTemperature(0.0) -> 1"));
         sentence("BAD_VALUE (no number", () -> refusedWithEach(NO_NUMBERS, "", "setTemperature(#) -> BAD_VALUE"));
         sentence("or not from -40.0 to 30.0)", () -> {
             acts("", "setTemperature(-40.0) -> 1");
@@ -209,7 +211,8 @@ final class ActsBounds extends Bounds {
             acts("setTemperature(1.0)", "setTemperature(-0.0) -> 1");
             rows("setTemperature(1.0); setTemperature(-0.0); temperature() -> -0.0; setTemperature(0.0) -> NONE; "
                 + "temperature() -> -0.0; setTemperature(1.0); setTemperature(0.0); temperature() -> 0.0");
-            rows("setTemperature(1.0); setTemperature(-0.0); keep(); setTemperature(2.0); undo(); temperature() -> -0.0; "
+            rows("setTemperature(1.0); setTemperature(-0.0); keep(); setTemperature(2.0); undo(); "
+                + "temperature() -> -0.0; "
                 + "setTemperature(2.0); restore(); temperature() -> -0.0");
         });
     }
@@ -218,8 +221,18 @@ final class ActsBounds extends Bounds {
         in("Promise 6: addTour");
         sentence("Adds a tour without guests and guides. This is an act.", () -> {
             acts(TOUR, "addTour(9, 20.0, 5, 0) -> 1");
-            rows("addGuide(2, 99); " + TOUR + "; book(0, 3); lead(0, 0); undo(); undo(); undo(); addTour(9, 20.0, 5, 0); "
+            rows("addGuide(2, 99); " + TOUR + "; book(0, 3); lead(0, 0); undo(); undo(); undo(); "
+                + "addTour(9, 20.0, 5, 0); "
                 + "tour(0, 3) -> 0; tour(0, 4) -> 0; tour(0, 5) -> 0; rope(0, 0, 0) -> NONE");
+            // Nothing stays of a tour that bore its number, whatever became of that one.
+            String told = "; tour(0, 0) -> 9; tour(0, 1) -> 5; tour(0, 3) -> 0; tour(0, 4) -> 0; tour(0, 5) -> 0; "
+                + "tour(0, 6) -> 0; tour(0, 7) -> NONE; tour(0, 9) -> 5; guide(0, 3) -> NONE; cancel(0) -> 0; "
+                + "tour(0, 7) -> 4";
+            String former = "addGuide(2, 99); keep(); " + TOUR + "; book(0, 3); lead(0, 0)";
+            rows(former + "; restore(); addTour(9, 20.0, 5, 0)" + told);
+            rows(former + "; cancel(0); restore(); addTour(9, 20.0, 5, 0)" + told);
+            rows(former + "; pass(21); restore(); addTour(9, 20.0, 5, 0)" + told);
+            rows(former + "; " + TOUR + "; merge(0, 1); restore(); addTour(9, 20.0, 5, 0)" + told);
         });
         sentence("`day`: the day, today or later, at most 999", () -> {
             refused("", "addTour(-1, 0.0, 1, 0) -> BAD_VALUE");
@@ -263,7 +276,8 @@ final class ActsBounds extends Bounds {
     private static void addTourErrors() {
         sentence("Returns its number", () ->
             rows(TOUR + " -> 0; addTour(0, 0.0, 0, 0) -> BAD_VALUE; " + TOUR + " -> 1; undo(); " + TOUR + " -> 1"));
-        sentence("BAD_VALUE (day", () -> refusedWithEach(new String[] {"-1", "1000"}, "", "addTour(#, 0.0, 1, 0) -> BAD_VALUE"));
+        sentence("BAD_VALUE (day", () ->
+            refusedWithEach(new String[] {"-1", "1000"}, "", "addTour(#, 0.0, 1, 0) -> BAD_VALUE"));
         sentence("the slope is no number", () -> refusedWithEach(NO_NUMBERS, "", "addTour(0, #, 1, 0) -> BAD_VALUE"));
         sentence("or not from 0.0 to 60.0", () -> {
             acts("", "addTour(0, 0.0, 1, 0) -> 0");
@@ -329,7 +343,8 @@ final class ActsBounds extends Bounds {
         sentence("NOT_POSSIBLE if it is not open", () -> {
             refused(TOUR + "; cancel(0)", "book(0, 1) -> NOT_POSSIBLE");
             refused("2 x " + TOUR + "; merge(0, 1)", "book(0, 1) -> NOT_POSSIBLE");
-            refused("addGuide(2, 30); " + TOUR + "; book(0, 1); lead(0, 0); pass(21) -> 1", "book(0, 1) -> NOT_POSSIBLE");
+            refused("addGuide(2, 30); " + TOUR + "; book(0, 1); lead(0, 0); "
+                + "pass(21) -> 1", "book(0, 1) -> NOT_POSSIBLE");
             acts("2 x " + TOUR + "; merge(0, 1)", "book(1, 1) -> 10");
             acts(TOUR + "; pass(20)", "book(0, 1) -> 10");
         });
@@ -372,7 +387,8 @@ final class ActsBounds extends Bounds {
             refusedWithEach(WILD, scene, "leave(0, #) -> BAD_VALUE");
         });
         sentence("Returns what is refunded", () ->
-            rows("addTour(13, 0.0, 9999, 0); book(0, 12); leave(0, 1) -> 7499; leave(0, 11) -> 84366; tour(0, 5) -> 28123"));
+            rows("addTour(13, 0.0, 9999, 0); book(0, 12); leave(0, 1) -> 7499; leave(0, 11) -> 84366; "
+                + "tour(0, 5) -> 28123"));
         sentence("UNKNOWN", () -> {
             refused("", "leave(0, 1) -> UNKNOWN");
             refused("10 x " + TOUR, "leave(10, 1) -> UNKNOWN");
@@ -403,7 +419,8 @@ final class ActsBounds extends Bounds {
         String scene = "addGuide(1, 30); addGuide(2, 30); addGuide(3, 30); 3 x " + TOUR;
         sentence("Makes a guide the last one in the row of a tour. This is an act.", () -> {
             acts(scene + "; lead(2, 1)", "lead(0, 1) -> 6");
-            rows(scene + "; lead(2, 1); lead(0, 1); lead(1, 1); rope(1, 0, 0) -> 2; rope(1, 1, 0) -> 0; rope(1, 2, 0) -> 1; "
+            rows(scene + "; lead(2, 1); lead(0, 1); lead(1, 1); rope(1, 0, 0) -> 2; rope(1, 1, 0) -> 0; "
+                + "rope(1, 2, 0) -> 1; "
                 + "tour(1, 4) -> 3; release(2, 1); lead(2, 1); rope(1, 0, 0) -> 0; rope(1, 2, 0) -> 2");
         });
         sentence("`guide`: a guide", () -> {
@@ -486,7 +503,8 @@ final class ActsBounds extends Bounds {
         String scene = "3 x addGuide(2, 30); 2 x addTour(20, 30.0, 10, 0); book(0, 5); lead(0, 0); lead(1, 0)";
         sentence("Takes a guide out of the row of a tour. This is an act.", () -> {
             acts(scene, "release(0, 0) -> 2");
-            rows(scene + "; release(0, 0); rope(0, 0, 0) -> 1; rope(0, 0, 2) -> 3; rope(0, 1, 0) -> NONE; tour(0, 4) -> 1");
+            rows(scene + "; release(0, 0); rope(0, 0, 0) -> 1; rope(0, 0, 2) -> 3; rope(0, 1, 0) -> NONE; "
+                + "tour(0, 4) -> 1");
             rows(scene + "; release(1, 0); rope(0, 0, 0) -> 0; rope(0, 1, 0) -> NONE; release(0, 0); tour(0, 4) -> 0");
         });
         sentence("`guide`: a guide", () -> {

@@ -30,7 +30,11 @@ abstract class Bounds {
 
     private static void run(Runnable test) {
         int before = Checks.madeSoFar();
-        test.run();
+        try {
+            test.run();
+        } catch (RuntimeException e) {
+            Checks.dueText("the test", "an exception: " + e, "no exception");
+        }
         Checks.due("the test looks at something", Checks.madeSoFar() > before ? 1 : 0, 1);
         Checks.begin("");
     }

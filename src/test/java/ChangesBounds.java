@@ -85,7 +85,8 @@ final class ChangesBounds extends Bounds {
         sentence("Otherwise it goes.", () -> {
             acts(LED, "pass(6) -> 1");
             acts(LED, "pass(5) -> 0");
-            rows(LED + "; pass(6); tour(0, 6) -> 1; tour(0, 7) -> NONE; tour(0, 5) -> 70; count(8) -> 70; count(9) -> 0");
+            rows(LED + "; pass(6); tour(0, 6) -> 1; tour(0, 7) -> NONE; tour(0, 5) -> 70; count(8) -> 70; "
+                + "count(9) -> 0");
         });
         sentence("What was paid for a cancelled tour is refunded.", () -> {
             rows(LED + "; book(0, 5); pass(6) -> 0; tour(0, 5) -> 0; count(8) -> 0; count(9) -> 120");
@@ -145,7 +146,8 @@ final class ChangesBounds extends Bounds {
         });
         sentence("the part (int) ((double) paid / guests * leaving * share) is refunded, "
             + "with what was paid and its guests before", () -> {
-                String two = "addTour(10, 0.0, 100, 0); book(0, 2); leave(0, 1) -> 75; tour(0, 5) -> 125; tour(0, 3) -> 1";
+                String two = "addTour(10, 0.0, 100, 0); book(0, 2); leave(0, 1) -> 75; tour(0, 5) -> 125; "
+                    + "tour(0, 3) -> 1";
                 rows(two + "; leave(0, 1) -> 93; tour(0, 5) -> 32; tour(0, 3) -> 0");
                 rows(two + "; book(0, 1); leave(0, 2) -> 168; tour(0, 5) -> 57");
                 rows("addTour(10, 0.0, 100, 0); book(0, 12); leave(0, 12) -> 900; tour(0, 5) -> 300; tour(0, 3) -> 0");
@@ -185,7 +187,8 @@ final class ChangesBounds extends Bounds {
             rows(scene + "; leave(0, 3) -> 30; tour(0, 5) -> 0; cancel(0) -> 0; count(9) -> 30");
             rows(scene + "; merge(0, 1) -> 18; tour(0, 5) -> 0; tour(1, 5) -> 32; count(8) -> 32; count(9) -> 18");
             rows(scene + "; cancel(0) -> 30; tour(0, 5) -> 0; count(8) -> 20; count(9) -> 30");
-            rows(scene + "; pass(21); tour(0, 5) -> 0; count(8) -> 0; count(9) -> 50; undo(); count(8) -> 50; count(9) -> 0");
+            rows(scene + "; pass(21); tour(0, 5) -> 0; count(8) -> 0; count(9) -> 50; undo(); count(8) -> 50; "
+                + "count(9) -> 0");
         });
     }
 
@@ -222,7 +225,8 @@ final class ChangesBounds extends Bounds {
             acts(tours, "merge(5, 2) -> 0");
         });
         sentence("all bridges of the other one are bridges of its own, too", () -> {
-            String tours = "6 x addBridge(99.0); addTour(5, 0.0, 1, 33); addTour(5, 0.0, 1, 33); addTour(5, 0.0, 1, 32); "
+            String tours = "6 x addBridge(99.0); addTour(5, 0.0, 1, 33); addTour(5, 0.0, 1, 33); "
+                + "addTour(5, 0.0, 1, 32); "
                 + "addTour(5, 0.0, 1, 1); addTour(5, 0.0, 1, 0); addTour(5, 0.0, 1, 34); addTour(5, 0.0, 1, 63)";
             acts(tours, "merge(0, 1) -> 0");
             acts(tours, "merge(0, 2) -> 0");
@@ -276,14 +280,16 @@ final class ChangesBounds extends Bounds {
         });
         String scene = "8 x addGuide(2, 9); 3 x addTour(5, 0.0, 1, 0); lead(3, 0); lead(1, 0)";
         sentence("Its guides come behind those of the other one, in their order, up to 4 in all;", () -> {
-            rows(scene + "; merge(0, 1); tour(1, 4) -> 2; rope(1, 0, 0) -> 3; rope(1, 1, 0) -> 1; rope(1, 2, 0) -> NONE");
+            rows(scene + "; merge(0, 1); tour(1, 4) -> 2; rope(1, 0, 0) -> 3; rope(1, 1, 0) -> 1; "
+                + "rope(1, 2, 0) -> NONE");
             rows(scene + "; lead(5, 1); lead(0, 1); merge(0, 1); tour(1, 4) -> 4; rope(1, 0, 0) -> 5; "
                 + "rope(1, 1, 0) -> 0; rope(1, 2, 0) -> 3; rope(1, 3, 0) -> 1");
             rows(scene + "; lead(5, 1); lead(0, 1); lead(4, 1); merge(0, 1); tour(1, 4) -> 4; rope(1, 2, 0) -> 4; "
                 + "rope(1, 3, 0) -> 3; rope(1, 4, 0) -> NONE; lead(6, 1) -> FULL");
             rows(scene + "; lead(5, 1); lead(0, 1); lead(4, 1); lead(2, 1); merge(0, 1); tour(1, 4) -> 4; "
                 + "rope(1, 3, 0) -> 2; rope(1, 4, 0) -> NONE");
-            rows(scene + "; lead(2, 0); lead(0, 0); merge(0, 1); tour(1, 4) -> 4; rope(1, 2, 0) -> 2; rope(1, 3, 0) -> 0");
+            rows(scene + "; lead(2, 0); lead(0, 0); merge(0, 1); tour(1, 4) -> 4; rope(1, 2, 0) -> 2; "
+                + "rope(1, 3, 0) -> 0");
         });
         sentence("those behind them become free.", () -> {
             String full = scene + "; lead(5, 1); lead(0, 1); lead(4, 1)";
@@ -293,7 +299,8 @@ final class ChangesBounds extends Bounds {
                 + "lead(3, 2) -> 7");
         });
         sentence("It has no guests and guides then.", () -> {
-            rows(scene + "; book(0, 9); merge(0, 1); tour(0, 3) -> 0; tour(0, 4) -> 0; tour(0, 5) -> 0; tour(0, 8) -> 0; "
+            rows(scene + "; book(0, 9); merge(0, 1); tour(0, 3) -> 0; tour(0, 4) -> 0; tour(0, 5) -> 0; "
+                + "tour(0, 8) -> 0; "
                 + "rope(0, 0, 0) -> NONE; needed(0) -> 17.5");
             rows(scene + "; lead(5, 1); lead(0, 1); lead(4, 1); merge(0, 1); tour(0, 4) -> 0; rope(0, 0, 2) -> NONE");
         });

@@ -45,7 +45,8 @@ final class Checks {
     private static void report(String call, String got, String want) {
         wrong++;
         if (wrong <= 50) {
-            System.out.println((test.isEmpty() ? "" : "[" + test + "] ") + call + " answered " + got + ", due is " + want);
+            String name = test.isEmpty() ? "" : "[" + test + "] ";
+            System.out.println(name + call + " answered " + got + ", due is " + want);
         }
     }
 

@@ -18,6 +18,7 @@ final class HistoryBounds extends Bounds {
         acts();
         snapshots();
         stateAndNoState();
+        numbersGivenAgain();
         constants();
         orderOfChecks();
         nothingChanges();
@@ -27,7 +28,16 @@ final class HistoryBounds extends Bounds {
         in("TEXTS");
         sentence("There is a text of at most 40 characters, empty at first.", () -> {
             rows("count(12) -> 0; clearText() -> 0; perform() -> -100");
-            rows("39 x type(98); type(98) -> 40; count(12) -> 40; type(98) -> FULL; count(12) -> 40; clearText() -> 40; "
+            // A longer text that stood there before is no part of a shorter one.
+            for (String text : new String[] {"book", "book ", "book 1", "book 1 ", "leave 1", "leave 1 "}) {
+                rows("'book 10 10'; perform() -> UNKNOWN; '" + text + "'; perform() -> " + (-100 - text.length()));
+                rows("'leave 10 10'; perform() -> UNKNOWN; '" + text + "'; perform() -> " + (-100 - text.length()));
+            }
+            rows("'cancel 10'; perform() -> UNKNOWN; 'cancel'; perform() -> -106; 'cance'; perform() -> -100");
+            rows("10 x addTour(5, 0.0, 1, 0); 'cancel 10'; perform() -> UNKNOWN; 'cancel 1'; perform() -> 0; "
+                + "tour(1, 6) -> 2");
+            rows("39 x type(98); type(98) -> 40; count(12) -> 40; type(98) -> FULL; count(12) -> 40; "
+                + "clearText() -> 40; "
                 + "type(98) -> 1");
             // The last place of a full text is read, too.
             rows("'book 0 1" + " ".repeat(32) + "'; perform() -> -108");
@@ -98,8 +108,9 @@ final class HistoryBounds extends Bounds {
             rows("'Book 0 1'; perform() -> -100; 'bOok 0 1'; perform() -> -100; 'booK 0 1'; perform() -> -100");
         });
         sentence("If it is none of these, the fault of the text is 0;", () -> {
-            String[] texts = {"", " ", "b", "boo", "books 0 1", "leav 0 1", "leaves", "merg 0 1", "merger 0 1", "cance 0",
-                "cancels 0", "lea 0 0", "leads 0 0", "leadbook 0 0", "bookbook", "0", "pass 1", "undo", "release 0 0"};
+            String[] texts = {"cook 0 1", "bnok 0 1", "booj 0 1", "keave 0 1", "leavd 0 1", "nerge 0 1", "mergf 0 1",
+                "bancel 0", "cancem 0", "kead 0 0", "leae 0 0", "", " ", "b", "boo", "books 0 1", "leav 0 1", "leaves",
+                "merg 0 1", "merger 0 1", "cance 0", "cancels 0", "lea 0 0", "leads 0 0", "leadbook 0 0", "bookbook", "0", "pass 1", "undo", "release 0 0"};
             for (String text : texts) {
                 refused("addTour(20, 0.0, 3, 0); addGuide(2, 30); '" + text + "'", "perform() -> -100");
             }
@@ -180,7 +191,8 @@ final class HistoryBounds extends Bounds {
     private static void stateAndNoState() {
         sentence("A state is everything but the text, the history and the snapshot.", () -> {
             rows("'book'; pass(1); 'cancel'; undo() -> 0; count(12) -> 6; keep(); 'x'; restore(); count(12) -> 1");
-            rows("3 x pass(1); keep(); 2 x pass(1); restore() -> 3; count(11) -> 5; undo(); count(0) -> 5; count(11) -> 4");
+            rows("3 x pass(1); keep(); 2 x pass(1); restore() -> 3; count(11) -> 5; undo(); count(0) -> 5; "
+                + "count(11) -> 4");
             rows("keep(); pass(1); keep() -> 1; undo(); restore() -> 1; keep() -> 1; pass(1); undo(); restore() -> 1");
             Office office = Office.after(OFFICE);
             String before = office.state();
@@ -190,6 +202,42 @@ final class HistoryBounds extends Bounds {
                 + "merge(0, 1) -> NOT_POSSIBLE; pass(9); addTour(9, 0.0, 1, 0); restore() -> 0");
             Checks.dueText("tours by restore()", office.state(), before);
         });
+    }
+
+    private static void numbersGivenAgain() {
+        sentence("A state is everything", () -> {
+            // The numbers are given anew behind undo() and restore(), and bear others then.
+            String first = "addGuide(1, 30); addBridge(40.0); addTour(20, 20.0, 10, 1); addTour(20, 9.0, 8, 1); "
+                + "book(0, 4); "
+                + "book(1, 3); lead(0, 0)";
+            String second = "addGuide(3, 29); addTour(19, 46.0, 7, 0); addTour(18, 31.0, 6, 0); book(1, 5); "
+                + "lead(0, 1); "
+                + "cancel(1); cancel(0)";
+            dueAgain(first, second);
+            dueAgain(second, first);
+            dueAgain(first + "; pass(21) -> 1", second);
+            dueAgain(second, first + "; pass(21) -> 1");
+            dueAgain(first + "; merge(0, 1)", first + "; pass(21) -> 1");
+            // Slopes of the same base are told apart by merging alone.
+            String slopes = "addTour(5, 20.0, 1, 0); addTour(5, 25.0, 1, 0); keep(); 2 x undo(); addTour(5, 28.0, 1, 0); "
+                + "addTour(5, 21.0, 1, 0)";
+            acts(slopes, "merge(0, 1) -> 0");
+            refused(slopes, "merge(1, 0) -> NOT_POSSIBLE");
+            acts(slopes + "; restore()", "merge(1, 0) -> 0");
+            refused(slopes + "; restore()", "merge(0, 1) -> NOT_POSSIBLE");
+        });
+    }
+
+    // With the snapshot of a new object, another office can be made in place of the one that was.
+    private static void dueAgain(String first, String second) {
+        String due = Office.after(first).state();
+        Office kept = Office.after("keep(); " + second + "; restore(); " + first);
+        Checks.dueText(first + ", in place of " + second, kept.state(), due);
+        kept = Office.after("keep(); " + first + "; restore(); addGuide(3, 28); addTour(17, 47.0, 9, 0); "
+            + "addTour(16, 32.0, 8, 0); cancel(1); 5 x undo()");
+        Checks.dueText(first + ", by undo()", kept.state(), due);
+        kept = Office.after(first + "; keep(); addTour(29, 59.0, 3, 0); 3 x pass(1); restore()");
+        Checks.dueText(first + ", by restore()", kept.state(), due);
     }
 
     private static void constants() {

@@ -64,13 +64,15 @@ final class TellingBounds extends Bounds {
             rows(TOUR + "; 'book 0 1'; clearText(); count(12) -> 0; perform() -> -100; count(3) -> 1; count(11) -> 1; "
                 + "type(98) -> 1; perform() -> -100; undo() -> 0; count(3) -> 0"));
         sentence("Returns the length that it had.", () -> rows("clearText() -> 0; type(97); clearText() -> 1; "
-            + "clearText() -> 0; 39 x type(97); clearText() -> 39; 40 x type(97); clearText() -> 40; clearText() -> 0"));
+            + "clearText() -> 0; 39 x type(97); clearText() -> 39; 40 x type(97); clearText() -> 40; "
+            + "clearText() -> 0"));
     }
 
     private static void perform() {
         in("Promise 16: perform");
         sentence("Does what the command in the text tells; the text stays.", () ->
-            rows(TOUR + "; 'book 0 5'; perform() -> 50; count(12) -> 8; perform() -> 50; perform() -> FULL; count(12) -> 8; "
+            rows(TOUR + "; 'book 0 5'; perform() -> 50; count(12) -> 8; perform() -> 50; perform() -> FULL; "
+                + "count(12) -> 8; "
                 + "tour(0, 3) -> 10; 'x'; perform() -> -100; count(12) -> 1"));
         sentence("This is an act, as the method is that does the same.", () -> {
             acts(TOUR + "; 'book 0 12'", "perform() -> 120");
@@ -105,10 +107,12 @@ final class TellingBounds extends Bounds {
     private static void undo() {
         in("Promise 17: undo");
         sentence("Removes and restores the latest state of the history.", () -> {
-            rows(TOUR + "; book(0, 1); book(0, 2); undo(); tour(0, 3) -> 1; undo(); tour(0, 3) -> 0; undo(); count(3) -> 0");
+            rows(TOUR + "; book(0, 1); book(0, 2); undo(); tour(0, 3) -> 1; undo(); tour(0, 3) -> 0; undo(); "
+                + "count(3) -> 0");
             rows(TOUR + "; book(0, 1); undo(); book(0, 3); undo() -> 1; tour(0, 3) -> 0");
             // What is undone cannot be undone back.
-            rows("pass(1); pass(2); undo() -> 1; count(0) -> 1; undo() -> 0; count(0) -> 0; undo() -> NONE; count(0) -> 0");
+            rows("pass(1); pass(2); undo() -> 1; count(0) -> 1; undo() -> 0; count(0) -> 0; undo() -> NONE; "
+                + "count(0) -> 0");
         });
         sentence("Returns the number of states that are left", () -> {
             rows("pass(1); undo() -> 0");
@@ -168,7 +172,8 @@ final class TellingBounds extends Bounds {
             tells("3 x addGuide(2, 9)", "guide(3, 0) -> UNKNOWN");
         });
         sentence("`what`: 0 for the class, 1 for the day up to which the certificate is valid", () -> {
-            rows("addGuide(1, 0); addGuide(3, 999); guide(0, 0) -> 1; guide(0, 1) -> 0; guide(1, 0) -> 3; guide(1, 1) -> 999");
+            rows("addGuide(1, 0); addGuide(3, 999); guide(0, 0) -> 1; guide(0, 1) -> 0; guide(1, 0) -> 3; "
+                + "guide(1, 1) -> 999");
             rows("addGuide(1, 0); pass(1); renew(0, 2, 1); guide(0, 0) -> 2; guide(0, 1) -> 1");
         });
         sentence("2 for whether it is valid today (1, otherwise 0)", () -> {
@@ -181,6 +186,7 @@ final class TellingBounds extends Bounds {
             String three = "addGuide(2, 30); addTour(7, 0.0, 1, 0); addTour(6, 0.0, 1, 0); addTour(5, 0.0, 1, 0)";
             tells("addGuide(2, 30)", "guide(0, 3) -> NONE");
             tells(three, "guide(0, 3) -> NONE");
+            tells("addGuide(2, 30); keep(); addTour(5, 0.0, 1, 0); lead(0, 0); restore()", "guide(0, 3) -> NONE");
             tells(three + "; lead(0, 2)", "guide(0, 3) -> 2");
             tells(three + "; lead(0, 2); lead(0, 0); lead(0, 1)", "guide(0, 3) -> 0");
             tells(three + "; lead(0, 2); lead(0, 0); cancel(0)", "guide(0, 3) -> 2");
@@ -204,6 +210,12 @@ final class TellingBounds extends Bounds {
             tells(LED + "; leave(0, 2); pass(21) -> 1", "guide(1, 4) -> 1");
             tells(LED + "; pass(21) -> 1; renew(0, 3, 20)", "guide(0, 5) -> 4");
             tells(LED + "; pass(21) -> 1; undo()", "guide(0, 5) -> 0");
+            tells("addGuide(2, 30); addTour(5, 0.0, 1, 0); addTour(6, 0.0, 1, 0); book(0, 7); book(1, 1); lead(0, 0); "
+                + "lead(0, 1); pass(7) -> 2", "guide(0, 5) -> 8");
+            tells(TOUR + "; book(0, 1); keep(); addGuide(2, 30); lead(0, 0); pass(21) -> 1; restore(); addGuide(1, 9)",
+                "guide(0, 5) -> 0");
+            tells(TOUR + "; book(0, 1); keep(); addGuide(2, 30); lead(0, 0); pass(21) -> 1; restore(); addGuide(1, 9)",
+                "guide(0, 4) -> 0");
         });
         sentence("UNKNOWN", () -> {
             tells("", "guide(0, 0) -> UNKNOWN");
@@ -229,12 +241,14 @@ final class TellingBounds extends Bounds {
         });
         sentence("`what`: 0 for its day, 1 for its price, 2 for its bridges", () -> {
             rows("addTour(0, 0.0, 1, 0); tour(0, 0) -> 0; tour(0, 1) -> 1; tour(0, 2) -> 0");
-            rows("6 x addBridge(9.0); addTour(999, 0.0, 9999, 63); tour(0, 0) -> 999; tour(0, 1) -> 9999; tour(0, 2) -> 63");
+            rows("6 x addBridge(9.0); addTour(999, 0.0, 9999, 63); tour(0, 0) -> 999; tour(0, 1) -> 9999; "
+                + "tour(0, 2) -> 63");
         });
         sentence("3 for its guests, 4 for the number of its guides, 5 for what was paid for it and is not refunded", () -> {
             rows(TOUR + "; tour(0, 3) -> 0; tour(0, 4) -> 0; tour(0, 5) -> 0");
             rows("4 x addGuide(2, 30); " + TOUR + "; book(0, 12); lead(0, 0); lead(1, 0); lead(2, 0); lead(3, 0); "
-                + "tour(0, 3) -> 12; tour(0, 4) -> 4; tour(0, 5) -> 120; leave(0, 5); tour(0, 3) -> 7; tour(0, 5) -> 70");
+                + "tour(0, 3) -> 12; tour(0, 4) -> 4; tour(0, 5) -> 120; leave(0, 5); tour(0, 3) -> 7; "
+                + "tour(0, 5) -> 70");
         });
         sentence("6 for its state (0 open, 1 gone, 2 cancelled, 3 merged)", () -> {
             tells(TOUR, "tour(0, 6) -> 0");
@@ -273,9 +287,12 @@ final class TellingBounds extends Bounds {
                 tells(LED + "; renew(1, 3, 19)", "tour(0, 10) -> 3");
                 tells(LED + "; renew(1, 3, 21)", "tour(0, 10) -> 0");
                 // On a day before its own the certificate that will have lapsed is valid still.
-                tells("addGuide(2, 30); addTour(9, 0.0, 1, 0); book(0, 1); lead(0, 0); renew(0, 2, 8)", "tour(0, 10) -> 3");
-                tells("addBridge(20.0-); addTour(9, 0.0, 1, 1); addGuide(2, 9); lead(0, 0); book(0, 1)", "tour(0, 10) -> 2");
-                tells("addBridge(20.0); setTemperature(30.0); addTour(9, 0.0, 1, 1); addGuide(2, 9); lead(0, 0); book(0, 1)",
+                tells("addGuide(2, 30); addTour(9, 0.0, 1, 0); book(0, 1); lead(0, 0); "
+                    + "renew(0, 2, 8)", "tour(0, 10) -> 3");
+                tells("addBridge(20.0-); addTour(9, 0.0, 1, 1); addGuide(2, 9); lead(0, 0); "
+                    + "book(0, 1)", "tour(0, 10) -> 2");
+                tells("addBridge(20.0); setTemperature(30.0); addTour(9, 0.0, 1, 1); addGuide(2, 9); lead(0, 0); "
+                    + "book(0, 1)",
                     "tour(0, 10) -> 0");
             });
         sentence("NONE if it is not open)", () -> {
@@ -314,10 +331,12 @@ final class TellingBounds extends Bounds {
             tells(LED, "rope(0, 0, 0) -> 0");
             tells(LED, "rope(0, 1, 0) -> 1");
             tells(LED, "rope(0, 2, 0) -> NONE");
-            tells("4 x addGuide(2, 30); " + TOUR + "; lead(3, 0); lead(2, 0); lead(1, 0); lead(0, 0)", "rope(0, 3, 0) -> 0");
+            tells("4 x addGuide(2, 30); " + TOUR + "; lead(3, 0); lead(2, 0); lead(1, 0); "
+                + "lead(0, 0)", "rope(0, 3, 0) -> 0");
         });
         sentence("`what`: 0 for the guide, 1 for the ratio, 2 for the guests on the rope", () -> {
-            rows(LED + "; rope(0, 0, 0) -> 0; rope(0, 0, 1) -> 4; rope(0, 0, 2) -> 4; rope(0, 1, 0) -> 1; rope(0, 1, 1) -> 6; "
+            rows(LED + "; rope(0, 0, 0) -> 0; rope(0, 0, 1) -> 4; rope(0, 0, 2) -> 4; rope(0, 1, 0) -> 1; "
+                + "rope(0, 1, 1) -> 6; "
                 + "rope(0, 1, 2) -> 2");
             rows(LED + "; leave(0, 2); rope(0, 0, 2) -> 4; rope(0, 1, 2) -> 0; leave(0, 4); rope(0, 0, 2) -> 0");
             rows(LED + "; book(0, 6); rope(0, 0, 2) -> 4; rope(0, 1, 2) -> 6");
@@ -337,7 +356,8 @@ final class TellingBounds extends Bounds {
             tells(TOUR, "rope(0, 0, 0) -> NONE");
             tells(LED, "rope(0, 2, 2) -> NONE");
             tellsWithEach(new String[] {"3", "4", "256", "65536", "2147483646", "MAX"}, LED, "rope(0, #, 2) -> NONE");
-            tells("4 x addGuide(2, 30); " + TOUR + "; lead(3, 0); lead(2, 0); lead(1, 0); lead(0, 0)", "rope(0, 4, 2) -> NONE");
+            tells("4 x addGuide(2, 30); " + TOUR + "; lead(3, 0); lead(2, 0); lead(1, 0); "
+                + "lead(0, 0)", "rope(0, 4, 2) -> NONE");
             // What stands behind the end of a row is no guide of it.
             tells(LED + "; release(1, 0)", "rope(0, 1, 0) -> NONE");
         });
@@ -352,7 +372,8 @@ final class TellingBounds extends Bounds {
     private static void thickness() {
         in("Promise 23: thickness");
         sentence("`bridge`: a bridge", () -> {
-            String six = "addBridge(1.0); addBridge(2.0); addBridge(3.0); addBridge(4.0); addBridge(5.0); addBridge(6.0)";
+            String six = "addBridge(1.0); addBridge(2.0); addBridge(3.0); addBridge(4.0); addBridge(5.0); "
+                + "addBridge(6.0)";
             tells(six, "thickness(-1) -> NaN");
             tells(six, "thickness(0) -> 1.0");
             tells(six, "thickness(5) -> 6.0");
@@ -442,7 +463,8 @@ final class TellingBounds extends Bounds {
 
     private static void holds() {
         in("Promise 26: holds");
-        String scene = "addBridge(17.5); addBridge(17.5-); addBridge(20.0); addBridge(20.0-); addGuide(2, 30); 2 x " + TOUR
+        String scene = "addBridge(17.5); addBridge(17.5-); addBridge(20.0); addBridge(20.0-); addGuide(2, 30); "
+            + "2 x " + TOUR
             + "; lead(0, 1); book(1, 1)";
         sentence("`tour`: a tour", () -> {
             tells(scene, "holds(-1, 0) -> UNKNOWN");
@@ -565,7 +587,8 @@ final class TellingBounds extends Bounds {
             + "7 for those that were merged", () -> {
                 rows("10 x " + TOUR + "; count(4) -> 10; count(5) -> 0; count(6) -> 0; count(7) -> 0");
                 rows(LED + "; addGuide(2, 30); 4 x addTour(20, 15.0, 1, 0); merge(4, 3); cancel(2); count(4) -> 3; "
-                    + "count(5) -> 0; count(6) -> 1; count(7) -> 1; pass(21); count(4) -> 0; count(5) -> 1; count(6) -> 3; "
+                    + "count(5) -> 0; count(6) -> 1; count(7) -> 1; pass(21); count(4) -> 0; count(5) -> 1; "
+                    + "count(6) -> 3; "
                     + "count(7) -> 1; count(3) -> 5");
             });
         sentence("8 for all that is paid and not refunded, 9 for all refunds", () -> {
@@ -577,13 +600,15 @@ final class TellingBounds extends Bounds {
         sentence("10 for the guests of tours that have gone", () -> {
             rows(LED + "; count(10) -> 0; pass(20); count(10) -> 0; pass(1); count(10) -> 6; undo(); count(10) -> 0; "
                 + "cancel(0); count(10) -> 0");
-            rows("2 x addGuide(3, 9); addTour(0, 0.0, 1, 0); addTour(1, 0.0, 1, 0); book(0, 8); book(1, 12); lead(0, 0); "
+            rows("2 x addGuide(3, 9); addTour(0, 0.0, 1, 0); addTour(1, 0.0, 1, 0); book(0, 8); book(1, 12); "
+                + "lead(0, 0); "
                 + "lead(0, 1); lead(1, 1); pass(2) -> 2; count(10) -> 20");
         });
         sentence("11 for the states in the history, 12 for the length of the text", () -> {
             rows("count(11) -> 0; 4 x pass(1); count(11) -> 4; pass(1); count(11) -> 5; pass(1); count(11) -> 5; "
                 + "undo(); count(11) -> 4; 4 x undo(); count(11) -> 0; undo() -> NONE; count(11) -> 0");
-            rows("count(12) -> 0; type(97); count(12) -> 1; 39 x type(97); count(12) -> 40; type(97) -> FULL; count(12) -> 40; "
+            rows("count(12) -> 0; type(97); count(12) -> 1; 39 x type(97); count(12) -> 40; type(97) -> FULL; "
+                + "count(12) -> 40; "
                 + "clearText(); count(12) -> 0");
         });
     }

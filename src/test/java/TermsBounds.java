@@ -158,6 +158,21 @@ final class TermsBounds extends Bounds {
             rows("addTour(5, 0.0, 1, 0); tour(0, 0) -> 5; tour(-1, 0) -> UNKNOWN; tour(1, 0) -> UNKNOWN");
             acts("10 x addTour(5, 0.0, 1, 0); undo()", "addTour(6, 0.0, 2, 0) -> 9");
         });
+        sentence("numbered from 0.", () -> {
+            // All that there may be, and the last one of each.
+            String all = "8 x addGuide(2, 30); 6 x addBridge(99.0); 10 x addTour(20, 0.0, 10, 63)";
+            rows(all + "; guide(7, 3) -> NONE; bestGuide(9) -> 0; holds(9, 5) -> 1; needed(9) -> 17.5; "
+                + "tour(9, 10) -> 1; "
+                + "lead(7, 9); book(9, 12); tour(9, 8) -> 5; lead(6, 9); guide(7, 3) -> 9; rope(9, 1, 2) -> 5; "
+                + "release(7, 9) -> 5; lead(7, 9); merge(9, 8); guide(7, 3) -> 8; cancel(0); count(4) -> 8; "
+                + "count(8) -> 120; "
+                + "keep(); pass(21) -> 1; count(5) -> 1; count(6) -> 8; count(7) -> 1; count(10) -> 12; "
+                + "guide(7, 4) -> 1; "
+                + "guide(7, 5) -> 5; restore(); guide(7, 3) -> 8; count(10) -> 0");
+            acts(all, "book(9, 12) -> 120");
+            acts(all + "; book(9, 12)", "merge(9, 0) -> 0");
+            acts(all + "; 4 x undo()", "lead(7, 5) -> 7");
+        });
     }
 
     private static void whatATourHas() {
