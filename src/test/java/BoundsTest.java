@@ -1,11 +1,5 @@
-/** Each sentence of the document that names a boundary case has a test of its own, which bears its words. */
+/** Each sentence of the document has a test that bears its words, and so has each boundary case that it names. */
 public final class BoundsTest {
-    /** The beginnings of those that name none. */
-    private static final String[] WITHOUT_BOUNDS = {
-        "Guides on a glacier: ", "Errors are reported by the constants below.", "Ahead of the calls ",
-        "Returns the number;", "Tells whether a row that is made for certificates of just one class ",
-    };
-
     private BoundsTest() {
     }
 
@@ -15,7 +9,8 @@ public final class BoundsTest {
         HistoryBounds.tests();
         ActsBounds.tests();
         TellingBounds.tests();
-        Document.dueWhole(WITHOUT_BOUNDS);
+        OtherSentences.tests();
+        Document.dueWhole();
         Checks.end();
     }
 }

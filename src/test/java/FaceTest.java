@@ -2,7 +2,10 @@ import java.lang.reflect.Constructor;
 import java.lang.reflect.Field;
 import java.lang.reflect.Method;
 import java.lang.reflect.Modifier;
+import java.util.Arrays;
 import java.util.TreeSet;
+import java.util.regex.Matcher;
+import java.util.regex.Pattern;
 
 /** The public face: the members of the document with their types, and no others that can be seen. */
 public final class FaceTest {
@@ -22,7 +25,10 @@ public final class FaceTest {
     }
 
     public static void main(String[] args) {
-        Checks.dueText("the face", seen().toString(), new TreeSet<>(java.util.Arrays.asList(FACE)).toString());
+        Checks.dueText("the face", seen().toString(), new TreeSet<>(Arrays.asList(FACE)).toString());
+        if (Document.isThere()) {
+            Checks.dueText("the document's face", written().toString(), seen().toString());
+        }
         int modifiers = GlacierGuides.class.getModifiers();
         Checks.due("the class is public and final",
             Modifier.isPublic(modifiers) && Modifier.isFinal(modifiers) ? 1 : 0, 1);
@@ -53,6 +59,22 @@ public final class FaceTest {
             }
         }
         return seen;
+    }
+
+    // The members in the document's section, written as those that are seen.
+    private static TreeSet<String> written() {
+        TreeSet<String> written = new TreeSet<>();
+        for (String line : Document.linesOf("The public face")) {
+            Matcher constant = Pattern.compile("    public static final (int [A-Z_]+) = -[0-9];").matcher(line);
+            Matcher method = Pattern.compile("    public ([A-Za-z ]+)\\((.*)\\);").matcher(line);
+            if (constant.matches()) {
+                written.add(constant.group(1));
+            } else if (method.matches()) {
+                String types = method.group(2).replaceAll(" [A-Za-z]+(, )?", ",").replaceFirst(",$", "");
+                written.add(method.group(1) + "(" + types + ")");
+            }
+        }
+        return written;
     }
 
     private static boolean isSeen(int modifiers, boolean synthetic) {
