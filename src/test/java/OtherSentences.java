@@ -31,6 +31,7 @@ final class OtherSentences extends Bounds {
     private static final String[] FEW_NUMBERS = {"-1", "0", "1", "20", "MAX"};
     private static final String[] BITS = {"0.0", "-0.0", "20.0", "NaN", "1.7976931348623157E308"};
     private static final String[] CHARACTERS = {"0", "32", "98", "65535"};
+    // Some errors come only where the same call was made before.
     private static final int TIMES = 3;
 
     private OtherSentences() {
